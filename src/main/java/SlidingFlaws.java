@@ -29,6 +29,7 @@ public final class SlidingFlaws {
     private static final int MOST_CURVED = 20;
     private static final int LOW = 0;
     private static final int HIGH = 1;
+    private static final int MORE_THAN_ANY = 1 << 30;
 
     private static final int NOT_TOLD = -100;
     private static final int NO_LINE = -1000;
@@ -560,9 +561,13 @@ public final class SlidingFlaws {
 
         void drop() {
             Arrays.fill(pushes, 0);
-            Arrays.fill(pushTold, false);
-            Arrays.fill(speckTold, false);
-            Arrays.fill(sourceTold, false);
+            for (int d = 0; d < pushTold.length; d++) {
+                pushTold[d] = false;
+            }
+            for (int place = 0; place < PLACES; place++) {
+                speckTold[place] = false;
+                sourceTold[place] = false;
+            }
             speckMany = 0;
             sourceMany = 0;
             baseTold = false;
@@ -1241,7 +1246,7 @@ public final class SlidingFlaws {
             int rest = set & set - 1;
             int lowest = set ^ rest;
             leasts[0] = 0;
-            leasts[set] = Integer.MAX_VALUE;
+            leasts[set] = MORE_THAN_ANY;
             for (int more = 0; more <= rest; more++) {
                 int group = lowest | more;
                 boolean can = (more & ~rest) == 0 && worths[group] != NONE;
@@ -1612,7 +1617,7 @@ public final class SlidingFlaws {
         /** By numbers, so that of several with one sum the first stays. */
         private boolean searchOfLength(Ground truth, int many, int ticks, int aim) {
             Arrays.fill(tried, 0);
-            int least = Integer.MAX_VALUE;
+            int least = MORE_THAN_ANY;
             int changed = 0;
             int all = waysToPull(many);
             for (int one = 0; one < all; one++) {
@@ -1627,7 +1632,7 @@ public final class SlidingFlaws {
                 }
                 changed = nextTried(many);
             }
-            return least < Integer.MAX_VALUE;
+            return least < MORE_THAN_ANY;
         }
 
         private int waysToPull(int many) {
@@ -1721,14 +1726,20 @@ public final class SlidingFlaws {
 
         void keep(Row row) {
             if (now >= MOST_ACTS) {
-                Row oldest = kept[0];
-                System.arraycopy(kept, 1, kept, 0, MOST_ACTS);
-                kept[MOST_ACTS] = oldest;
-                now = MOST_ACTS - 1;
+                forgetOldest();
             }
             now++;
             last = now;
             kept[now].becomes(row);
+        }
+
+        private void forgetOldest() {
+            Row oldest = kept[0];
+            for (int i = 0; i < MOST_ACTS; i++) {
+                kept[i] = kept[i + 1];
+            }
+            kept[MOST_ACTS] = oldest;
+            now = MOST_ACTS - 1;
         }
 
         boolean goBack(Row row) {
