@@ -816,10 +816,10 @@ public final class SlidingFlaws {
                 readStatement(crystal, statements);
                 statements++;
                 skipBlanks();
-                goesOn = fault == 0 && place < many;
-                if (goesOn && byteAt(place) != ';') {
+                if (place < many && byteAt(place) != ';') {
                     refuse(place, CANNOT_STAND);
                 }
+                goesOn = fault == 0 && place < many;
                 place++;
                 skipBlanks();
             }

@@ -187,6 +187,12 @@ public final class PromisesTest {
         readDue("Step 1 0 0", 0, 0);
         readDue("steps 1 0 0", 0, 0);
         readDue("ste 1 0 0", 0, 0);
+        readDue("stepz 1 0 0", 0, 0);
+        readDue("zstep 1 0 0", 0, 0);
+        readDue("step{1 0 0", 4, 0);
+        readDue("step`1 0 0", 4, 0);
+        readDue("step 1 0 :", 9, 0);
+        readDue("step 1 0 /", 9, 0);
         readDue("ste", 0, 0);
         readDue("stepX 1 0 0", 4, 0);
         readDue("step1 0 0", 4, 0);
@@ -420,6 +426,65 @@ public final class PromisesTest {
         due("gone lines don't count", x.sum(1, 0), -1);
     }
 
+    private static void meetingInSpace() {
+        SlidingFlaws x = of("step 1 2 3;step 4 1 2;step -2 3 1;step 3 3 3");
+        x.knot(false);
+        x.knot(false);
+        x.line(0, 1, 1, 2, 3);
+        x.line(1, 0, 2, 3, 5);
+        due("met", x.meet(0, 1), 1);
+        due("x", x.lines(0, 0), -1);
+        due("y", x.lines(0, 1), -1);
+        due("z", x.lines(0, 2), -2);
+        x.line(0, 1, 0, 0, 3);
+        x.line(0, 1, 0, 0, 2);
+        due("in z not less", x.meet(2, 3), 0);
+        x.line(0, 1, 0, 0, -5);
+        due("in z less", x.meet(2, 4), 1);
+        due("z", x.lines(2, 2), -2);
+        promise = 14;
+        x.line(0, 1, 5, 3, 5);
+        due("a third that is none", x.part(5, 2, false), -2);
+        due("a and b", x.part(5, 1, false), 6);
+        due("a x", x.lines(5, 0), 4);
+        due("a y", x.lines(5, 1), 1);
+        due("a z", x.lines(5, 2), 2);
+        due("b x", x.lines(6, 0), 1);
+        due("b y", x.lines(6, 1), 2);
+        due("b z", x.lines(6, 2), 3);
+        x.line(0, 1, -3, -1, 1);
+        due("not less in all three", x.part(7, 0, true), -2);
+        promise = 15;
+        x.line(1, 0, -2, 2, -1);
+        x.line(0, 1, 1, -2, 2);
+        x.line(0, 1, 0, 3, 0);
+        due("sums in all three", x.least(0, 1 << 8 | 1 << 9 | 1 << 10), 9 + 9 + 9);
+        x.line(0, 1, 2, 3, 2);
+        due("with one way turned", x.least(0, 1 << 8 | 1 << 11), 17 + 9);
+        x.line(1, 0, 0, 1, 4);
+        due("as they go from the knot", x.least(0, 1 << 11 | 1 << 12), 17 + 17);
+        x.line(0, 1, -5, 0, -1);
+        due("one turned", x.least(0, 1 << 8 | 1 << 13), 9 + 26);
+        x.line(0, 1, -4, 2, 0);
+        due("no step", x.least(0, 1 << 8 | 1 << 14), 9 + 20);
+        x.line(0, 1, -3, 1, 1);
+        x.line(0, 1, 1, 2, 0);
+        due("a step", x.least(0, 3 << 15), 14);
+        x.line(1, 0, 3, -1, -1);
+        due("a step, one line going there", x.least(0, 3 << 16), 14);
+        due("at the other knot", x.least(1, 3 << 16), 14);
+        promise = 14;
+        x = of("step 1 0 0;step 0 1 0;step 0 0 1");
+        x.knot(false);
+        x.knot(false);
+        x.line(0, 1, -1, 0, 1);
+        x.line(0, 1, 0, -1, 1);
+        x.line(0, 1, 1, 0, -1);
+        due("as much, x below 0", x.part(0, 2, false), -2);
+        due("as much, y below 0", x.part(1, 2, false), -2);
+        due("as much, z below 0", x.part(2, 0, false), -2);
+    }
+
     private static void soundness() {
         SlidingFlaws x = new SlidingFlaws();
         due("no knots", x.unsound(), -1);
@@ -565,6 +630,8 @@ public final class PromisesTest {
         due("nine", x.least(0, 511), -1);
         due("all", x.least(0, -1), -1);
         due("lines 58, 59", x.least(0, 3L << 58), 18);
+        due("bits beyond 59 are no lines", x.least(0, 3L << 59), -1);
+        due("bits beyond 59 are no lines", x.least(0, 7L << 58), 18);
         due("line 59 alone", x.least(0, 1L << 59), -1);
         x = knotOfLines();
         x.line(1, 0, 1, 1, 0);
@@ -720,6 +787,21 @@ public final class PromisesTest {
         due("20 apart on the left", x.feels(50, 0), -9 + 4 - 100 - 100);
         x.put(29, 1);
         due("21 apart", x.feels(50, 0), -9 + 4 - 100 - 100);
+        x = of("push 20 1");
+        x.put(0, 1);
+        x.put(20, 1);
+        due("a push of 1, 20 apart", x.feels(20, 0), 1);
+        x = of("push 1 9;push 2 4;push 5 1");
+        x.put(0, 1);
+        x.put(1, -1);
+        x.put(6, 1);
+        due("at place 0", x.feels(0, 3), 3 + 9);
+        due("beside place 0", x.feels(1, 3), -3 - 9 + 1);
+        due("a push of 1, 5 apart", x.feels(6, 0), -1);
+        x.put(99, 1);
+        x.put(98, -1);
+        due("at place 99", x.feels(99, 3), 3 - 9);
+        due("beside place 99", x.feels(98, 3), -3 + 9);
         due("no flaw", x.feels(49, 0), -1000000000);
         due("no place", x.feels(100, 0), -1000000000);
         due("no place", x.feels(-1, 0), -1000000000);
@@ -965,6 +1047,8 @@ public final class PromisesTest {
         for (int[] w : without) {
             due("aim without these", x.aim(w[0], w[1], w[2], w[3], w[4], w[5], w[6]), -1);
         }
+        due("what is behind the first n is of no matter", x.aim(3, 9, 9, 9, 10000, 20, 20), 1);
+        due("what is behind the first n is of no matter", x.aim(2, 9, 9, 10000, 10000, 20, 20), 1);
         due("what is behind the first n is of no matter", x.aim(1, 9, 10000, 10000, 10000, 20, 20), 1);
         promise = 30;
         due("aimed(0)", x.aimed(0), 0);
@@ -1130,6 +1214,33 @@ public final class PromisesTest {
         due("strain", x.strain(1, 0, 1), 3);
     }
 
+    private static void systemsInSpace() {
+        SlidingFlaws x = of("step 1 2 3;plane 3 3 -3;plane 5 2 -3");
+        due("in the first", x.system(0, 0), 0);
+        due("in the second", x.system(1, 0), 1);
+        x.fill(0, 10, 1);
+        x.fill(0, 90, 1);
+        x.fill(1, 10, 1);
+        tell(x, "");
+        promise = 42;
+        due("square 18 * 18 by 27 * 14", x.pulled(0, 0, 2, 100, 0), -46);
+        promise = 44;
+        due("load", x.load(0, 0, 2, 100, 1, 0), 1);
+        due("strain", x.strain(1, 2, 4), -2 * -3 * 17 + -1 * -3 * 17);
+        promise = 47;
+        int[] step = {1, 2, 3};
+        int[] planes = {-2 * 3 - 5, -2 * 3 - 2, -2 * -3 - -3};
+        for (int i = 0; i < 3; i++) {
+            for (int j = 0; j < 3; j++) {
+                due("form(" + i + ", " + j + ")", x.form(i, j), step[i] * planes[j]);
+            }
+        }
+        promise = 48;
+        due("a wall", x.wall(9), 1);
+        promise = 49;
+        due("tilt", x.tilt(9, 2), 3);
+    }
+
     private static void hardening() {
         SlidingFlaws x = grain(";source 80 5");
         due("bounds", x.harder(999, 999), true);
@@ -1137,6 +1248,7 @@ public final class PromisesTest {
         due("own", x.harder(-1, 0), false);
         due("cross", x.harder(0, 1000), false);
         due("cross", x.harder(0, -1), false);
+        due("bounds", x.harder(0, 0), true);
         due("set", x.harder(150, 70), true);
         due("refused, nothing happens", x.harder(5, -1), false);
         x.fill(0, 10, 1);
@@ -1560,6 +1672,7 @@ public final class PromisesTest {
         soundness();
         number(13);
         meeting();
+        meetingInSpace();
         number(14);
         parting();
         number(15);
@@ -1597,6 +1710,7 @@ public final class PromisesTest {
         sights();
         number(38);
         systemsMade();
+        systemsInSpace();
         number(39);
         hardening();
         number(40);
