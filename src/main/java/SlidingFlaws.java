@@ -1193,6 +1193,10 @@ public final class SlidingFlaws {
 
         /** How many lines the set tells, which are chosen then; 0 if one can't be. */
         private int choose(int knot, long set) {
+            // A bit above those of lines tells one that isn't there: it is refused, not passed over.
+            if (set >>> LINES_OF_A_SET != 0L) {
+                return 0;
+            }
             int many = 0;
             for (int line = 0; line < LINES_OF_A_SET; line++) {
                 if ((set >>> line & 1L) != 0) {

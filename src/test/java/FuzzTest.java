@@ -99,9 +99,10 @@ public final class FuzzTest {
         long set = 0;
         for (int i = below(9); i >= 0; i--) {
             int line = focus == 1 ? told - below(10) : below(10);
-            set |= below(6) == 0 ? 0 : 1L << Math.max(0, Math.min(63, line));
+            set |= below(6) == 0 ? 0 : 1L << Math.max(0, Math.min(59, line));
         }
-        return set;
+        // Bits above those of lines, beside lines that may be there.
+        return below(12) > 0 ? set : set | 1L << from(60, 63);
     }
 
     private void step() throws Exception {

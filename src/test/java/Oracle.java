@@ -382,9 +382,9 @@ final class Oracle {
             return NONE;
         }
         List<int[]> ways = new ArrayList<>();
-        for (int i = 0; i < 60; i++) {
+        for (int i = 0; i < 64; i++) {
             if ((set >> i & 1) == 1) {
-                Line l = there(i);
+                Line l = i < 60 ? there(i) : null;
                 if (l == null || l.from != knot && l.to != knot) {
                     return NONE;
                 }

@@ -630,9 +630,16 @@ public final class PromisesTest {
         due("nine", x.least(0, 511), -1);
         due("all", x.least(0, -1), -1);
         due("lines 58, 59", x.least(0, 3L << 58), 18);
-        due("bits beyond 59 are no lines", x.least(0, 3L << 59), -1);
-        due("bits beyond 59 are no lines", x.least(0, 7L << 58), 18);
         due("line 59 alone", x.least(0, 1L << 59), -1);
+        for (int bit = 60; bit < 64; bit++) {
+            due("bit " + bit + " beside two lines", x.least(0, 1L << bit | 3), -1);
+            due("bit " + bit + " beside one line", x.least(0, 1L << bit | 1), -1);
+            due("bit " + bit + " beside lines 58, 59", x.least(0, 1L << bit | 3L << 58), -1);
+            due("bit " + bit + " alone", x.least(0, 1L << bit), -1);
+        }
+        due("bits 60 to 63", x.least(0, 15L << 60), -1);
+        due("a set below 0", x.least(0, Long.MIN_VALUE + 7), -1);
+        due("all that can be", x.least(0, (1L << 60) - 1), -1);
         x = knotOfLines();
         x.line(1, 0, 1, 1, 0);
         x.meet(0, 4);
@@ -656,6 +663,10 @@ public final class PromisesTest {
         groupNames(x, 0, 1);
         x.least(0, 1);
         groupNames(x, 0, 1);
+        for (int bit = 60; bit < 64; bit++) {
+            x.least(0, 1L << bit | 15);
+            groupNames(x, 0, 1);
+        }
         x.least(0, 12);
         groupNames(x, 0, 1);
         x = of("step 1 0 0");
