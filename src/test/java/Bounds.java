@@ -188,20 +188,21 @@ abstract class Bounds {
     static String row(SlidingFlaws x) {
         StringBuilder all = new StringBuilder();
         for (int p = 0; p < 100; p++) {
-            if (x.at(p) != 0) {
-                all.append(all.length() > 0 ? " " : "").append(p).append(x.at(p) > 0 ? '+' : '-');
-            }
+            append(all, p, x.at(p));
         }
         return all.toString();
+    }
+
+    private static void append(StringBuilder all, int place, long sign) {
+        if (sign != 0) {
+            all.append(all.length() > 0 ? " " : "").append(place).append(sign == 1 ? "+" : sign == -1 ? "-" : "?" + sign);
+        }
     }
 
     static String rowOf(SlidingFlaws x, int system) {
         StringBuilder all = new StringBuilder();
         for (int p = 0; p < 100; p++) {
-            long sign = x.systems(system, 100 + p);
-            if (sign != 0) {
-                all.append(all.length() > 0 ? " " : "").append(p).append(sign > 0 ? '+' : '-');
-            }
+            append(all, p, x.systems(system, 100 + p));
         }
         return all.toString();
     }

@@ -7,9 +7,12 @@ final class BoundsOfActs extends Bounds {
         counting();
     }
 
-    /** The row and what is counted of it. */
+    /** The row where flaws are put and come, and what is counted of it: few enough calls to look often. */
     private static String look(SlidingFlaws x) {
-        StringBuilder all = new StringBuilder(row(x));
+        StringBuilder all = new StringBuilder();
+        for (int place = 8; place < 100; place = place == 16 ? 46 : place == 54 ? 96 : place + 1) {
+            all.append(x.at(place)).append(' ');
+        }
         for (int what = 5; what <= 10; what++) {
             all.append(' ').append(x.count(what));
         }

@@ -358,12 +358,12 @@ final class BoundsOfGrain extends Bounds {
             due("4 by LOW", x.load(1, 1, 1, 12, 1, 0), 1);
             due("6 by HIGH", x.load(1, 1, 1, 18, 1, 1), 0);
             due("7 by HIGH", x.load(1, 1, 1, 21, 1, 1), 1);
-            same("the first", rowOf(x, 0), "12+");
-            same("the second", rowOf(x, 1), "8-");
+            due("the first", x.systems(0, 112), 1);
+            due("the second", x.systems(1, 108), -1);
             // With its Q: 4 on the first, -4 on the second one.
             due("other ways", x.load(1, -1, 1, 12, 1, 0), 1);
-            same("the first", rowOf(x, 0), "13+");
-            same("the second", rowOf(x, 1), "9-");
+            due("the first", x.systems(0, 113), 1);
+            due("the second", x.systems(1, 109), -1);
             due("on the second alone", x.load(1, 1, 0, 8, 1, 0), 1);
             same("the first", rowOf(x, 0), "13+");
             same("the second", rowOf(x, 1), "8-");

@@ -448,6 +448,23 @@ final class BoundsOfLines extends Bounds {
             line(x, 3, 1, 1, 0);
             x = lines("step 1 0 0", step(2, 0, 0));
             due("1 and 1 of 4", x.part(0, 0, false), 1);
+            // Upright on one another: what they are worth is as much, whatever way b goes.
+            for (int part = 0; part < 3; part++) {
+                for (int sign = -1; sign <= 1; sign += 2) {
+                    int[] a = {0, 0, 0};
+                    int[] b = {0, 0, 0};
+                    a[(part + 1) % 3] = 5;
+                    b[part] = 3 * sign;
+                    x = lines("step " + a[0] + " " + a[1] + " " + a[2] + ";step " + b[0] + " " + b[1] + " " + b[2],
+                        step(a[0] + b[0], a[1] + b[1], a[2] + b[2]));
+                    due("25 and 9 of 34", x.part(0, 0, false), -2);
+                    due("9 and 25 of 34", x.part(0, 1, false), -2);
+                    a[part] = sign;
+                    x = lines("step " + a[0] + " " + a[1] + " " + a[2] + ";step " + b[0] + " " + b[1] + " " + b[2],
+                        step(a[0] + b[0], a[1] + b[1], a[2] + b[2]));
+                    due("26 and 9 of 41", x.part(0, 0, false), 1);
+                }
+            }
             x = lines("step 3 0 0;step -1 0 0", step(2, 0, 0));
             due("9 and 1 of 4", x.part(0, 0, false), -2);
         });
@@ -576,6 +593,12 @@ final class BoundsOfLines extends Bounds {
             due("LINES 31, 32", x.least(0, 3L << 31), 32 * 32 + 33 * 33);
             due("LINES 30, 31", x.least(0, 3L << 30), 31 * 31 + 32 * 32);
             due("LINES 7, 40", x.least(0, 1L << 7 | 1L << 40), 64 + 41 * 41);
+            // LINES 60 to 69 are there, and at that KNOT, but no bit tells them.
+            for (int bit = 60; bit < 64; bit++) {
+                due("bit " + bit, x.least(0, 1L << bit | 3), NONE);
+                due("bit " + bit + " and bit 59", x.least(0, 1L << bit | 1L << 59), NONE);
+                due("bit " + bit + " and one", x.least(0, 1L << bit | 1), NONE);
+            }
         });
         test("15", "NONE: none such KNOT, fewer than 2 or more than 8 LINES, or one that is not there or not at that KNOT.", () -> {
             SlidingFlaws x = knots("", 4);
@@ -832,6 +855,14 @@ final class BoundsOfLines extends Bounds {
                 due("k " + k, x.first(1, 1, 1, k), all[k]);
             }
             due("behind the last", x.first(1, 1, 1, 4), NONE);
+            // Of 1 by 4 and 1 by 5 the first alone, wherever it stands.
+            x = of("plane 0 0 1;plane 1 0 0;step 1 0 0;step 0 1 2");
+            due("1 by 4, then 1 by 5", x.first(1, 0, 1, NONE), 1);
+            due("1 by 4", x.first(1, 0, 1, 0), 0);
+            x = of("plane 1 0 0;plane 0 0 1;step 0 1 2;step 0 1 2;step 1 0 0");
+            due("1 by 5 twice, then 1 by 4", x.first(1, 0, 1, NONE), 1);
+            due("1 by 4", x.first(1, 0, 1, 0), 16 + 2);
+            due("no other one", x.first(1, 0, 1, 1), NONE);
             // A greater one behind, and one as great that is told in other terms.
             x = of("plane 0 0 1;plane 0 0 2;step 1 1 0;step 9 0 0;step -3 0 0");
             due("how many", x.first(1, 0, 1, NONE), 4);

@@ -193,6 +193,8 @@ final class BoundsOfRow extends Bounds {
             counts(ran("base 0 0;speck 50 99 99", "50+ 51-", 5, 9, 0, 1, ""), 0, 1, 5, 0, 2, 0);
             counts(ran("base 0 0;speck 0 99 99", "0- 1+", -5, 9, 0, 1, ""), 0, -1, 5, 0, 2, 0);
             counts(ran("base 0 0;speck 99 99 99", "98+ 99-", 5, 9, 0, 1, ""), 0, 1, 5, 0, 2, 0);
+            // 21 feels enough to the right, but is gone when its turn comes.
+            counts(ran("push 1 9;base 0 0", "20+ 21- 22+", -1, 1, 0, 1, "21+"), 1, 0, 0, 0, 2, 0);
             // Two pairs in one TICK, and one flaw that stays behind them.
             counts(ran("base 0 0", "10+ 11- 20+ 21- 22-", 5, 1, 0, 1, "21-"), 1, 3, 15, 0, 4, 0);
         });
@@ -394,6 +396,21 @@ final class BoundsOfRow extends Bounds {
             due("both come to 99", x.sure(9, 1), 1);
             due("by LOW it is out", x.sure(9, 2), 0);
             due("out by both", x.sure(10, 2), 1);
+            // At the rims, where one place makes the difference.
+            for (int rim = 0; rim < 100; rim += 99) {
+                for (int sign = -1; sign <= 1; sign += 2) {
+                    x = of("base 10 20");
+                    x.put(rim, sign);
+                    int out = rim == 0 ? -15 * sign : 15 * sign;
+                    due("out by LOW alone", x.sure(out, 1), 0);
+                    due("out by both", x.sure(out * 2, 1), 1);
+                    due("the other way by LOW alone", x.sure(-out, 1), 0);
+                }
+            }
+            // By LOW 50 goes right and is lost with 51; by HIGH it is 51 that goes left.
+            x = of("base 0 0;speck 50 0 99;push 1 20");
+            put(x, "50+ 51-");
+            due("lost by both", x.sure(0, 9), 1);
             x = of("base 99 99;source 50 0;speck 70 5 6");
             put(x, "70-");
             due("sources are alike", x.sure(5, 200), 1);
@@ -877,6 +894,31 @@ final class BoundsOfRow extends Bounds {
             due("two TICKS, 3 apart 11", x.fit(1, 1, 0, 0, 3, 0, 2), 0);
             due("two TICKS, 3 apart found", x.fit(1, 3, 0, 0, 5, 0, 2), 3);
             found(x, 1, 0, 5, 10);
+            // All three of them: 1 apart above 10, 2 apart any, 3 apart not above 10.
+            due("three distances", x.fit(3, 1, 2, 3, 10, 0, 2), 6 * 8 * 2);
+            due("three distances", x.fit(3, 3, 2, 1, 10, 0, 2), 2 * 8 * 6);
+            due("three distances", x.fit(3, 2, 1, 3, 6, 0, 2), 8 * 6 * 2);
+            due("three distances, the third step of 1", x.fit(3, 2, 3, 1, 2, 0, 2), 8 * 6 * 2);
+            // Its sources, too: with 1 apart any they give once, as told.
+            x = of("source 50 5;source 60 3;base 0 0;push 2 1");
+            x.mark();
+            put(x, "59- 61+");
+            due("one of two sources", x.fit(1, 1, 0, 0, 1, 4, 1), 8);
+            x.clear();
+            put(x, "49- 51+ 59- 61+");
+            due("both sources", x.fit(1, 1, 0, 0, 1, 6, 1), 8);
+            due("both sources, with too weak a pull", x.fit(1, 1, 0, 0, 1, 5, 1), 0);
+            x.clear();
+            put(x, "49+ 51- 59+ 61-");
+            due("the other way round", x.fit(1, 1, 0, 0, 1, -6, 1), 8);
+            // Its specks: by LOW 49 goes on, by HIGH it would not.
+            x = of("speck 50 20 99;speck 51 4 99;base 0 99");
+            put(x, "50+ 51+");
+            x.mark();
+            x.clear();
+            put(x, "50+ 52+");
+            due("one of them held by its speck", x.fit(1, 1, 0, 0, 5, 0, 1), 4);
+            found(x, 1, 5, 10, 15, 20);
         });
         test("III", "all with which a told RUN (a pull, TICKS, by LOW) from the ROW as it was marked comes to the ROW as it is:", () -> {
             // By LOW: HIGH would hold all.
@@ -898,6 +940,15 @@ final class BoundsOfRow extends Bounds {
             x.clear();
             put(x, "50-");
             due("the other sign", x.fit(1, 1, 0, 0, 1, 0, 0), 0);
+            for (int rim = 0; rim < 100; rim += 99) {
+                SlidingFlaws y = new SlidingFlaws();
+                y.put(rim, 1);
+                due("one more at the rim", y.fit(1, 1, 0, 0, 1, 0, 0), 0);
+                y.mark();
+                due("as it is marked", y.fit(1, 1, 0, 0, 1, 0, 0), 8);
+                y.clear();
+                due("one less at the rim", y.fit(1, 1, 0, 0, 1, 0, 0), 0);
+            }
             x.clear();
             due("an empty ROW", x.fit(1, 1, 0, 0, 1, 1, 200), 8);
             due("an empty ROW, not yet", x.fit(1, 1, 0, 0, 1, 1, 49), 0);

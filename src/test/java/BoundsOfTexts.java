@@ -334,6 +334,11 @@ final class BoundsOfTexts extends Bounds {
             fault(word + word.charAt(word.length() - 1) + behind, 0, 0);
             fault(word + behind.substring(1), word.length(), 0);
             fault(word + " " + behind.substring(1).replace(" ", ";"), word.length() + 2, 0);
+            for (int letter = 0; letter < word.length(); letter++) {
+                String other = word.substring(0, letter) + (char) (word.charAt(letter) + 1) + word.substring(letter + 1);
+                fault(other + behind, 0, 0);
+                fault("base 0 0;" + other + behind, 9, 0);
+            }
         }
         reads("step 1 0 0;step 1 0 0", 2);
         reads("  step 1 0 0  ;  step 1 0 0  ", 2);
@@ -398,6 +403,19 @@ final class BoundsOfTexts extends Bounds {
             fault(times(16, "eye 1 0 0") + ";eye 0 0 0", 16 * 10, 4);
             fault(times(16, "eye 1 0 0") + ";step 1 0 0;eye", 16 * 10 + 11, 4);
             reads(times(16, "eye 1 0 0") + ";step 1 0 0;plane 1 0 0", 18);
+            // How many of its sort were told by TEXTS before is of no matter, nor how many STATEMENTS.
+            String[] full = {speckText(10, 20) + ";source 11 1;source 22 1;source 33 1;source 44 1;source 55 1;base 1 1",
+                times(16, "step 1 0 0") + ";" + times(16, "plane 1 0 0"), fortyStatements()};
+            int[] statements = {26, 32, 40};
+            for (int i = 0; i < full.length; i++) {
+                SlidingFlaws x = new SlidingFlaws();
+                for (int turn = 0; turn < 5; turn++) {
+                    due("full again, turn " + turn, tell(x, full[i]), statements[i]);
+                }
+                due("full, and refused", tell(x, full[i] + ";q"), -2 - (1 + 8 * (full[i].length() + 1)));
+                due("full again", tell(x, full[i]), statements[i]);
+                due("full again", tell(x, full[i]), statements[i]);
+            }
             fault(fortyStatements() + ";eye", fortyStatements().length() + 1, 4);
             fault(fortyStatements() + ";push", fortyStatements().length() + 1, 4);
         });
@@ -429,6 +447,49 @@ final class BoundsOfTexts extends Bounds {
             due("one more", tell(x, "step 8 0 0"), 1);
             due("told(0, 0, 0)", x.told(0, 0, 0), 8);
             due("told(0, 1, 0)", x.told(0, 1, 0), -100);
+            due("planes", x.count(1), 0);
+            // A speck at either rim, which the next TEXT but one does not tell.
+            x = new SlidingFlaws();
+            for (int turn = 0; turn < 4; turn++) {
+                due("specks", tell(x, "speck 0 7 7;speck 99 8 8;base 1 1"), 3);
+                due("specks", tell(x, "speck 99 8 8;speck 0 7 7;base 2 2"), 3);
+                due("hold(0, 0)", x.hold(0, 0), 7);
+                due("none", tell(x, "base 3 3"), 1);
+                due("none", tell(x, "base 4 4"), 1);
+                due("hold(0, 0)", x.hold(0, 0), 4);
+                due("hold(99, 1)", x.hold(99, 1), 4);
+            }
+            // However many were read or refused before: nothing of them is told.
+            x = new SlidingFlaws();
+            String full = "step 1 0 0;plane 1 0 0;eye 1 0 0;push 1 9;speck 5 7 8;source 50 9;base 3 4";
+            for (int turn = 0; turn < 6; turn++) {
+                due("read, turn " + turn, tell(x, full), 7);
+                due("all of it", x.count(0) * 100 + x.count(1) * 10 + x.count(2), 111);
+                due("push(1), hold(5, 0), hold(6, 1)", x.push(1) * 100 + x.hold(5, 0) * 10 + x.hold(6, 1), 974);
+                if (turn % 2 == 0) {
+                    due("refused", tell(x, full.replace("1 0 0", "2 0 0") + ";speck 6 1 1;push 2 2;source 60 1;q") < -2, true);
+                }
+                due("read, with nothing of these", tell(x, "eye 0 0 1"), 1);
+                due("none of it", x.count(0) * 100 + x.count(1) * 10 + x.count(2), 1);
+                due("told(2, 0, 0)", x.told(2, 0, 0), 0);
+                due("push(1), push(2)", x.push(1) + x.push(2), 0);
+                due("hold(5, 1), hold(6, 1)", x.hold(5, 1) + x.hold(6, 1), 0);
+                due("no source", x.run(9999, 9, 0), 0);
+            }
+        });
+        test("I", "PUSHES 0 where none is told; the base HOLD 0 to 0 without one.", () -> {
+            SlidingFlaws x = new SlidingFlaws();
+            String[] texts = {"push 1 9;base 7 8", "", "push 2 9", "base 1 2", "step 1 0 0", "push 1 5;speck 3 1 1"};
+            int[][] due = {{9, 0, 7, 8}, {0, 0, 0, 0}, {0, 9, 0, 0}, {0, 0, 1, 2}, {0, 0, 0, 0}, {5, 0, 0, 0}};
+            for (int turn = 0; turn < 3; turn++) {
+                for (int t = 0; t < texts.length; t++) {
+                    tell(x, texts[t]);
+                    int[] got = {x.push(1), x.push(2), x.hold(9, 0), x.hold(9, 1)};
+                    for (int i = 0; i < 4; i++) {
+                        due("of \"" + texts[t] + "\", " + i, got[i], due[t][i]);
+                    }
+                }
+            }
         });
         test("I", "PUSHES 0 where none is told; the base HOLD 0 to 0 without one.", () -> {
             SlidingFlaws x = of("push 1 9;push 20 9;base 7 8;speck 3 5 6;source 50 0");

@@ -182,6 +182,7 @@ public final class FaceTest {
     }
 
     public static void main(String[] args) throws Exception {
+        Watch.start("FaceTest");
         face();
         rules();
         anything();

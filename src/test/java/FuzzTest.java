@@ -335,6 +335,7 @@ public final class FuzzTest {
     }
 
     public static void main(String[] args) throws Exception {
+        Watch.start("FuzzTest");
         int runs = args.length > 0 ? Integer.parseInt(args[0]) : 400;
         int start = args.length > 1 ? Integer.parseInt(args[1]) : 0;
         long calls = 0;

@@ -1656,6 +1656,7 @@ public final class PromisesTest {
     }
 
     public static void main(String[] args) {
+        Watch.start("PromisesTest");
         number(1);
         newObject();
         number(2);

@@ -1,6 +1,7 @@
 /** Each sentence of the document has a test of its own; none is left out. */
 public final class SentencesTest {
     public static void main(String[] args) throws Exception {
+        Watch.start("SentencesTest");
         Bounds.readDocument();
         BoundsOfTexts.all();
         BoundsOfLines.all();
