@@ -411,6 +411,15 @@ final class BoundsOfRow extends Bounds {
             x = of("base 0 0;speck 50 0 99;push 1 20");
             put(x, "50+ 51-");
             due("lost by both", x.sure(0, 9), 1);
+            // Signs count, not places alone: the source gives while by HIGH, not by LOW, the two still push it.
+            x = of("base 0 0;speck 10 0 99;speck 19 9999 9999;speck 21 9999 9999;source 20 3;push 10 20;push 9 30");
+            put(x, "10+ 12-");
+            due("the same places, other signs", x.sure(5, 2), 0);
+            x.run(5, 2, 0);
+            same("by LOW", row(x), "19- 21+");
+            x.undo();
+            x.run(5, 2, 1);
+            same("by HIGH", row(x), "19+ 21-");
             x = of("base 99 99;source 50 0;speck 70 5 6");
             put(x, "70-");
             due("sources are alike", x.sure(5, 200), 1);

@@ -627,6 +627,26 @@ final class BoundsOfTexts extends Bounds {
             due("shield(0)", x.shield(0), 0);
             due("run()", x.run(9999, 200, 0), 0);
             due("NONE", SlidingFlaws.NONE, -1);
+            // Whatever is told of another one, made before it or behind it.
+            SlidingFlaws y = of("step 1 0 0;plane 0 0 1;eye 1 0 0;push 1 9;base 3 4");
+            put(y, "10+ 99-");
+            y.mark();
+            y.knot(false);
+            y.system(0, 0);
+            y.sight(0, true);
+            y.aim(1, 9, 0, 0, 0, 1, 1);
+            SlidingFlaws z = new SlidingFlaws();
+            for (SlidingFlaws one : new SlidingFlaws[] {x, z}) {
+                due("flaws", one.count(5), 0);
+                due("back()", one.back(), 0);
+                due("push(1)", one.push(1), 0);
+                due("steps, knots, systems, sights", one.count(0) + one.count(3) + one.count(13) + one.count(12), 0);
+                due("aimed(0)", one.aimed(0), NONE);
+            }
+            tell(z, "push 1 7");
+            z.clear();
+            due("the other's push", y.push(1), 9);
+            due("the other's flaws", y.count(5), 2);
         });
         test("VII", "The constants: `NONE = -1`: None.", () -> due("NONE", SlidingFlaws.NONE, -1));
         test("2", "Twenty bytes come behind the TAPE, of each number the highest first: how many it has;", BoundsOfTexts::bytes);

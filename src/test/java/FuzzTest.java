@@ -11,6 +11,8 @@ public final class FuzzTest {
     private Oracle oracle;
     private int wrong = 0;
     private int calls = 0;
+    // Of the object that is asked now: what it answers behind its 512th call is free.
+    private int made = 0;
 
     // One letter for each argument: what sort of value it takes (see value()).
     private static final String[] KINDS = {
@@ -27,6 +29,8 @@ public final class FuzzTest {
         " line lines sum unsound meet part least group seen count sight readBack nextEye ",
         " system harder fill systems pulled load strain curve curved form wall tilt count share slides first ",
         " put at feels clear mark back run sure shape aim aimed fit fitted undo redo shield crack runsTo count "};
+    // A text is told by 24 calls at most, the asking for its bytes among them.
+    private static final int LAST_CALL = 512 - 24;
     private static final int[] WILD = {-1, 0, 1, 2, 3, -2, 9, 10, -9, -10, 19, 20, 21, 29, 30, 31, 50, 51, 59, 60, 61,
         98, 99, 100, -99, -100, 101, 120, 119, 200, 201, 199, 400, 998, 999, 1000, 1001, -1000, -1001, 9999, 10000, -9999,
         -10000, Integer.MAX_VALUE, Integer.MIN_VALUE, Integer.MAX_VALUE - 1, Integer.MIN_VALUE + 1, 65536, -65536};
@@ -160,6 +164,7 @@ public final class FuzzTest {
         Object got = invoke(mine, flaws, args);
         Object want = invoke(due, oracle, args);
         calls++;
+        made++;
         StringBuilder call = new StringBuilder(mine.getName()).append('(');
         for (int i = 0; i < args.length; i++) {
             call.append(i > 0 ? ", " : "").append(args[i]);
@@ -199,6 +204,7 @@ public final class FuzzTest {
         Method feed = methodOf(SlidingFlaws.class, "feed");
         Method feedDue = methodOf(Oracle.class, "feed");
         int had = (int) flaws.count(11);
+        made++;
         for (int i = 0; i < text.length(); i += 20) {
             Object[] five = new Object[5];
             for (int j = 0; j < 5; j++) {
@@ -315,12 +321,17 @@ public final class FuzzTest {
         return steps + planes + pushes + holds + ";source " + from(45, 55) + " " + from(5, 40) + ";source " + from(56, 60) + " 9";
     }
 
-    private boolean play(int steps) throws Exception {
+    private void renew() {
         flaws = new SlidingFlaws();
         oracle = new Oracle();
         log.setLength(0);
+        made = 0;
+    }
+
+    private boolean play(int steps) throws Exception {
+        renew();
         focus = below(4);
-        for (int i = 0; i < steps && wrong == 0; i++) {
+        for (int i = 0; i < steps && wrong == 0 && made < LAST_CALL; i++) {
             if (i == 0 && focus == 1) {
                 call("knot", below(2) == 0);
                 call("knot", below(2) == 0);
@@ -355,9 +366,11 @@ public final class FuzzTest {
         // Texts alone, far more of them.
         for (int run = start; run < start + runs * 2; run++) {
             FuzzTest test = new FuzzTest(run + 1000000);
-            test.flaws = new SlidingFlaws();
-            test.oracle = new Oracle();
-            for (int i = 0; i < 20; i++) {
+            test.renew();
+            for (int i = 0; i < 20 && test.wrong == 0; i++) {
+                if (test.made > LAST_CALL) {
+                    test.renew();
+                }
                 test.tell(test.text());
             }
             if (test.wrong > 0) {
