@@ -420,6 +420,14 @@ final class BoundsOfRow extends Bounds {
             x.undo();
             x.run(5, 2, 1);
             same("by HIGH", row(x), "19+ 21-");
+            // The ROW counts alone: what was SLIPPED on the way to it, was LOST and came is not the same.
+            String text = "base 0 15;push 1 29;source 5 21";
+            String becomes = "1+ 3+ 4+ 6- 7- 9- 11- 13-";
+            counts(ran(text, "0-", -25, 8, 0, 8, becomes), 8, -23, 575, 1, 8, 16);
+            counts(ran(text, "0-", -25, 8, 1, 8, becomes), 8, -29, 725, 1, 2, 10);
+            x = of(text);
+            put(x, "0-");
+            due("other ways to one ROW", x.sure(-25, 8), 1);
             x = of("base 99 99;source 50 0;speck 70 5 6");
             put(x, "70-");
             due("sources are alike", x.sure(5, 200), 1);
@@ -942,6 +950,18 @@ final class BoundsOfRow extends Bounds {
             due("marked is as it is, no TICKS", x.fit(1, 1, 0, 0, 3, 9999, 0), 8);
             due("marked is as it is", x.fit(1, 1, 0, 0, 3, 0, 200), 4);
             found(x, 1, 0, 3, 6, 9);
+            // The ROW counts alone, not what was SLIPPED on the way to it.
+            x = of("base 0 0");
+            put(x, "50+");
+            x.mark();
+            x.clear();
+            put(x, "53+");
+            due("put where it goes to", x.fit(1, 1, 0, 0, 1, 5, 3), 8);
+            due("put where it does not", x.fit(1, 1, 0, 0, 1, 5, 4), 0);
+            x.back();
+            x.run(5, 9, 0);
+            x.run(-5, 6, 0);
+            due("gone there and back", x.fit(1, 1, 0, 0, 1, 5, 3), 8);
             // Signs count, not places alone.
             x = of("base 0 0");
             put(x, "50+");
